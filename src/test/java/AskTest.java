@@ -174,11 +174,19 @@ public final class AskTest {
         Expect.same("20: the other way", 4, sign.apart(1, 0));
         Expect.same("20: two dots", 1, sign.apart(1, 2));
         Expect.same("20: at other offsets of both", 4, sign.apart(2, 4));
+        sign.width(5);
+        Expect.same("20: where the last offset is the only one", 4, sign.apart(2, 4));
+        sign.letter(3, 31, 31, 31);
+        sign.letter(3, 31, 31, 15);
+        sign.list(51);
+        Expect.same("20: as wide as the sign", 0, sign.apart(5, 5));
+        Expect.same("20: to one that is narrow", 14, sign.apart(5, 0));
+        sign.width(8);
         Expect.same("20: too long", NONE, sign.apart(3, 0));
         Expect.same("20: too long behind", NONE, sign.apart(0, 3));
         Expect.same("20: too long both", NONE, sign.apart(3, 3));
         Expect.index("20: below 0", sign, () -> sign.apart(-1, 0));
-        Expect.index("20: no line 5", sign, () -> sign.apart(0, 5));
+        Expect.index("20: no line 6", sign, () -> sign.apart(0, 6));
         Expect.index("20: neither", sign, () -> sign.apart(9, 9));
     }
 

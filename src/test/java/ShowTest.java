@@ -7,6 +7,7 @@ public final class ShowTest {
         powerCountsDots();
         wideColumnIsAStepOfItsOwn();
         noWrongLineHalfWay();
+        wrongAtEachOffset();
         linesThatWereSaidAreNotWrong();
         saidLineMayComeAgainHalfWay();
         sameFormsOfOtherLinesAreWrong();
@@ -96,6 +97,19 @@ public final class ShowTest {
         sign.power(10, 3);
         plan("8: back", sign, 1, 4);
         Expect.yes("8: sound", sign.isSound());
+    }
+
+    private static void wrongAtEachOffset() {
+        Flapline sign = new Flapline();
+        sign.width(5);
+        sign.letter(1, 31, 0, 0);
+        sign.list(111);
+        sign.power(5, 3);
+        plan("8: no other line", sign, 0, 1, 4, 16);
+        sign.list(1);
+        Expect.same("8: each first column is line 1, the last one, too", NONE, sign.ofLine(0, 6));
+        sign.power(10, 3);
+        plan("8: two at first, then one", sign, 0, 5, 16);
     }
 
     private static void linesThatWereSaidAreNotWrong() {

@@ -10,6 +10,7 @@ public final class SignTest {
         promise4();
         promise5();
         promise5FormsAndLengths();
+        promise5LettersOfAllNumbers();
         promise6();
         promise6MovesTheBestOffset();
         promise7();
@@ -151,6 +152,25 @@ public final class SignTest {
         int[] due = {1, 2, 4, 0, 8, 0, 16, 31};
         for (int column = 0; column < due.length; column++) {
             Expect.same("5: column " + column, due[column], sign.column(column, 0));
+        }
+    }
+
+    private static void promise5LettersOfAllNumbers() {
+        Flapline sign = new Flapline();
+        for (int letter = 1; letter <= 6; letter++) {
+            sign.letter(letter == 6 ? 2 : 1, letter, letter == 6 ? 7 : 0, 0);
+        }
+        sign.list(61);
+        sign.list(2345);
+        Expect.same("5: the sixth is two wide", 4, sign.ofLine(0, 1));
+        sign.power(40, 3);
+        sign.show(0);
+        Expect.same("5: the sixth", 6, sign.column(0, 0));
+        Expect.same("5: its second", 7, sign.column(1, 0));
+        Expect.same("5: the first", 1, sign.column(3, 0));
+        sign.show(1);
+        for (int place = 0; place < 4; place++) {
+            Expect.same("5: letter by letter", place + 2, sign.column(2 * place, 0));
         }
     }
 

@@ -8,6 +8,7 @@ public final class WireTest {
         promise9Wrong();
         promise10();
         promise11();
+        promise11SixStops();
         promise11ShowsOnce();
         promise12();
         promise19();
@@ -135,6 +136,25 @@ public final class WireTest {
         Expect.state("11: behind the end", sign, () -> sign.wheel(1));
         Expect.argument("11: wrong behind the end", sign, () -> sign.wheel(0));
         Expect.yes("11: sound at the end", sign.isSound());
+    }
+
+    private static void promise11SixStops() {
+        Flapline sign = threeLines();
+        for (int stop = 0; stop < 6; stop++) {
+            sign.stop(stop + 1, 1);
+        }
+        Expect.same("11: on the way to the last", 5, sign.wheel(20));
+        Expect.same("11: five turns of six", 5, sign.sign(16));
+        Expect.same("11: line 1", 1, sign.sign(17));
+        Expect.same("11: at the end of six", NONE, sign.wheel(1));
+        Expect.same("11: no line is shown there", 1, sign.sign(17));
+        Expect.same("11: wheel there", 0, sign.sign(16));
+        sign.again();
+        Expect.same("11: six at once", NONE, sign.wheel(21));
+        sign.again();
+        Expect.same("11: one less", 5, sign.wheel(20));
+        sign.again();
+        Expect.same("11: far more", NONE, sign.wheel(300));
     }
 
     private static void promise11ShowsOnce() {
