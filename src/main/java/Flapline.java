@@ -261,7 +261,12 @@ public final class Flapline {
     }
 
     public boolean isSound() {
-        return board.isTrue() && route.isTrue() && allPlansAreTrue();
+        for (int line = 0; line < book.lines; line++) {
+            if (!planIsTrue(line)) {
+                return false;
+            }
+        }
+        return board.isTrue() && route.isTrue();
     }
 
     public long digest() {
@@ -394,29 +399,29 @@ public final class Flapline {
 
     /** Below 0, if the line is longer than the sign: then no offset is there to be looped over. */
     private int lastOffset(int line) {
-        return board.columns - at(book.lengths, line);
+        return line >= 0 && line < book.lengths.length ? board.columns - book.lengths[line] : NONE;
     }
 
     private int harm(int line, int offset) {
         return Long.bitCount((book.placed(line, offset) ^ board.stuckBright) & board.stuck);
     }
 
-    private int leastHarm(int line) {
+    private int bestOffset(int line) {
+        int best = NONE;
         int least = NONE;
         for (int offset = 0; offset <= lastOffset(line); offset++) {
-            least = lesser(least, harm(line, offset));
-        }
-        return least;
-    }
-
-    private int bestOffset(int line) {
-        int least = leastHarm(line);
-        for (int offset = 0; offset <= lastOffset(line); offset++) {
-            if (harm(line, offset) == least) {
-                return offset;
+            int harm = harm(line, offset);
+            if (best == NONE || harm < least) {
+                best = offset;
+                least = harm;
             }
         }
-        return NONE;
+        return best;
+    }
+
+    private int leastHarm(int line) {
+        int offset = bestOffset(line);
+        return offset == NONE ? NONE : harm(line, offset);
     }
 
     private int distance(long picture, int line) {
@@ -475,30 +480,17 @@ public final class Flapline {
         }
         planner.begin(board.picture, goalAt(line, offset), power);
         for (int other = 0; other < book.lines; other++) {
-            if (isForbidden(other, line)) {
+            if (other != line && !says(board.picture, other)) {
                 forbidPlacesOf(other);
             }
         }
         planner.choose();
     }
 
-    private boolean isForbidden(int other, int line) {
-        return other != line && !says(board.picture, other);
-    }
-
     private void forbidPlacesOf(int line) {
         for (int offset = 0; offset <= lastOffset(line); offset++) {
             planner.forbid(book.placed(line, offset));
         }
-    }
-
-    private boolean allPlansAreTrue() {
-        for (int line = 0; line < book.lines; line++) {
-            if (!planIsTrue(line)) {
-                return false;
-            }
-        }
-        return true;
     }
 
     private boolean planIsTrue(int line) {
@@ -515,7 +507,7 @@ public final class Flapline {
 
     private boolean isWrong(long picture, int line) {
         for (int other = 0; other < book.lines; other++) {
-            if (isForbidden(other, line) && says(picture, other)) {
+            if (other != line && says(picture, other) && !says(board.picture, other)) {
                 return true;
             }
         }
@@ -533,22 +525,15 @@ public final class Flapline {
     }
 
     private static int setIn(long picture, int column) {
-        return (int) (picture >>> bitOf(column, 0)) & ALL_BRIGHT;
+        return (int) (picture >>> HEIGHTS * column) & ALL_BRIGHT;
     }
 
     /** The lesser of two numbers, of which the first is NONE as long as there is none. */
     private static int lesser(int least, int next) {
-        if (least == NONE || next == NONE) {
-            return least == NONE ? next : least;
-        }
-        return Math.min(least, next);
+        return least == NONE || (next != NONE && next < least) ? next : least;
     }
 
     private static int at(int[] values, int index) {
-        return index >= 0 && index < values.length ? values[index] : 0;
-    }
-
-    private static long at(long[] values, int index) {
         return index >= 0 && index < values.length ? values[index] : 0;
     }
 
@@ -720,7 +705,7 @@ public final class Flapline {
         }
 
         private long placed(int line, int offset) {
-            return at(forms, line) << bitOf(offset, 0);
+            return line >= 0 && line < forms.length ? forms[line] << HEIGHTS * offset : 0;
         }
     }
 
@@ -820,7 +805,8 @@ public final class Flapline {
         }
 
         private boolean canBeOneStep(int set) {
-            return at(dotsIn, set) <= power || (set & set - 1) == 0;
+            boolean isOneColumn = (set & set - 1) == 0;
+            return isOneColumn || set > 0 && set < dotsIn.length && dotsIn[set] <= power;
         }
 
         private int setOf(int nth) {
