@@ -1,3 +1,5 @@
+import java.util.Arrays;
+
 /** Promises 13 to 15, 17, 18 and 20 to 23: what is asked, and what would be. */
 public final class AskTest {
     private static final int NONE = Expect.NONE;
@@ -14,6 +16,7 @@ public final class AskTest {
         promise21();
         promise22();
         promise23();
+        promise23ByLinesAndWidths();
         Expect.finish();
     }
 
@@ -262,6 +265,21 @@ public final class AskTest {
         sign.width(5);
         Expect.same("23: narrow", summed(sign), sign.digest());
         Expect.same("23: asking changes nothing", sign.digest(), sign.digest());
+    }
+
+    private static void promise23ByLinesAndWidths() {
+        int[] rows = {1, 65, 234, 1111, 2, 3, 456, 6543};
+        for (int lines = 0; lines <= 8; lines++) {
+            Flapline sign = Signs.with(Signs.letters(5, 10, 15, 20, 25, 30), Arrays.copyOf(rows, lines));
+            Expect.same("23: " + lines + " lines", summed(sign), sign.digest());
+        }
+        for (int width = 4; width <= 8; width++) {
+            Flapline narrow = Signs.with(Signs.letters(31, 7), 1, 12, 121);
+            narrow.width(width);
+            narrow.show(1);
+            narrow.stick(width - 1, 4, 1);
+            Expect.same("23: by width " + width, summed(narrow), narrow.digest());
+        }
     }
 
     private static long summed(Flapline sign) {

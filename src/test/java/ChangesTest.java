@@ -24,6 +24,7 @@ public final class ChangesTest {
         oneThatWasSaidBeforeIsWrong();
         oneThatIsSaidAndAnotherIsWrong();
         fewestStepsWithoutAWrongPicture();
+        fewestStepsByTheRightPairs();
         theSmallestFirstStep();
         theSmallestSecondStep();
         eightSteps();
@@ -320,6 +321,17 @@ public final class ChangesTest {
         sign.power(15, 3);
         Signs.plan("2: three, then one", sign, 0, 21, 64);
         Expect.same("2: shown", 2, sign.show(0));
+    }
+
+    /** 3, 2, 4 and 3 dots: two steps of 6 are enough, but only by the outer two and the inner two. */
+    private static void fewestStepsByTheRightPairs() {
+        Flapline sign = Signs.with(Signs.letters(7, 3, 15), 1231);
+        sign.power(6, 3);
+        Signs.plan("2: the other pairs would need three", sign, 0, 20, 65);
+        sign.power(7, 3);
+        Signs.plan("2: by 7 other pairs are enough", sign, 0, 5, 80);
+        sign.power(5, 3);
+        Signs.plan("2: by 5 only one pair is a step", sign, 0, 1, 16, 68);
     }
 
     private static void theSmallestFirstStep() {
