@@ -233,6 +233,9 @@ public final class DotsTest {
                 Expect.same(what + ": said", 0, sign.ofLine(line, 5));
                 Expect.same(what + ": flips", fits ? dotsOf(line + 4) : NONE, sign.ofLine(line, 7));
             }
+            Expect.same("1: the longest is listed by width " + width, 6, sign.list(3333));
+            Expect.same("1: its length", 15, sign.ofLine(6, 1));
+            Expect.same("1: it has no place", NONE, sign.ofLine(6, 2));
         }
     }
 
