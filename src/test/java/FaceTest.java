@@ -5,31 +5,31 @@ import java.lang.reflect.Modifier;
 import java.util.Set;
 import java.util.TreeSet;
 
-/** Rule 1 of the language: the document's face, and no other member that is not private. */
+/** Rule 1 of the language: the document's face with its exceptions, and nothing else that is not private. */
 public final class FaceTest {
     private static final Set<String> FACE = new TreeSet<>(Set.of(
             "int again()",
-            "int apart(int,int)",
-            "int check(int,int)",
-            "int column(int,int)",
+            "int apart(int,int) throws IndexOutOfBoundsException",
+            "int check(int,int) throws IllegalArgumentException",
+            "int column(int,int) throws IndexOutOfBoundsException IllegalArgumentException",
             "long digest()",
-            "int dot(int,int,int)",
-            "int frame(int,int,int)",
+            "int dot(int,int,int) throws IndexOutOfBoundsException IllegalArgumentException",
+            "int frame(int,int,int) throws IllegalArgumentException IllegalStateException",
             "boolean isSound()",
-            "int letter(int,int,int,int)",
-            "int list(int)",
-            "int ofLine(int,int)",
-            "int power(int,int)",
-            "java.lang.String row(int)",
-            "int show(int)",
-            "int sign(int)",
-            "int step(int,int)",
-            "int stick(int,int,int)",
-            "int stop(int,int)",
-            "int swap(int)",
-            "int wheel(int)",
-            "int width(int)",
-            "int wouldRead(int)"));
+            "int letter(int,int,int,int) throws IllegalArgumentException IllegalStateException",
+            "int list(int) throws IllegalArgumentException IllegalStateException",
+            "int ofLine(int,int) throws IndexOutOfBoundsException IllegalArgumentException",
+            "int power(int,int) throws IllegalArgumentException",
+            "java.lang.String row(int) throws IndexOutOfBoundsException",
+            "int show(int) throws IndexOutOfBoundsException",
+            "int sign(int) throws IllegalArgumentException",
+            "int step(int,int) throws IndexOutOfBoundsException IllegalArgumentException",
+            "int stick(int,int,int) throws IndexOutOfBoundsException IllegalArgumentException",
+            "int stop(int,int) throws IllegalArgumentException IndexOutOfBoundsException IllegalStateException",
+            "int swap(int) throws IndexOutOfBoundsException",
+            "int wheel(int) throws IllegalArgumentException IllegalStateException",
+            "int width(int) throws IllegalArgumentException",
+            "int wouldRead(int) throws IndexOutOfBoundsException"));
 
     public static void main(String[] args) {
         Set<String> found = new TreeSet<>();
@@ -63,7 +63,13 @@ public final class FaceTest {
             text.append(between).append(type.getName());
             between = ",";
         }
-        return text.append(')').toString();
+        text.append(')');
+        between = " throws ";
+        for (Class<?> thrown : method.getExceptionTypes()) {
+            text.append(between).append(thrown.getSimpleName());
+            between = " ";
+        }
+        return text.toString();
     }
 
     private static void noNameTwice(Set<String> names) {

@@ -19,27 +19,19 @@ public final class ShowTest {
         Expect.finish();
     }
 
-    private static void plan(String what, Flapline sign, int line, int... sets) {
-        Expect.same(what + ": steps", sets.length, sign.ofLine(line, 6));
-        for (int nth = 0; nth < sets.length; nth++) {
-            Expect.same(what + ": step " + nth, sets[nth], sign.step(line, nth));
-        }
-        Expect.same(what + ": no more", NONE, sign.step(line, sets.length));
-    }
-
     private static void fewestStepsForThePower() {
         Flapline sign = new Flapline();
         sign.letter(3, 31, 31, 31);
         sign.list(11);
-        plan("8: six full columns by 10", sign, 0, 3, 20, 96);
+        Signs.plan("8: six full columns by 10", sign, 0, 3, 20, 96);
         sign.power(14, 3);
-        plan("8: two each by 14", sign, 0, 3, 20, 96);
+        Signs.plan("8: two each by 14", sign, 0, 3, 20, 96);
         sign.power(15, 3);
-        plan("8: three each by 15", sign, 0, 7, 112);
+        Signs.plan("8: three each by 15", sign, 0, 7, 112);
         sign.power(29, 3);
-        plan("8: the smallest set first", sign, 0, 1, 118);
+        Signs.plan("8: the smallest set first", sign, 0, 1, 118);
         sign.power(30, 3);
-        plan("8: all at once", sign, 0, 119);
+        Signs.plan("8: all at once", sign, 0, 119);
         Expect.same("8: flips ahead", 30, sign.ofLine(0, 7));
         Expect.same("8: show", 1, sign.show(0));
         Expect.same("8: steps ever", 1, sign.sign(8));
@@ -56,9 +48,9 @@ public final class ShowTest {
         sign.letter(3, 1, 3, 7);
         sign.list(1);
         sign.power(3, 3);
-        plan("8: 1 and 2, then 3", sign, 0, 3, 4);
+        Signs.plan("8: 1 and 2, then 3", sign, 0, 3, 4);
         sign.power(5, 3);
-        plan("8: the least first step that leaves one", sign, 0, 1, 6);
+        Signs.plan("8: the least first step that leaves one", sign, 0, 1, 6);
     }
 
     private static void wideColumnIsAStepOfItsOwn() {
@@ -66,7 +58,7 @@ public final class ShowTest {
         sign.letter(3, 1, 31, 1);
         sign.list(1);
         sign.power(2, 3);
-        plan("8: 5 by 2", sign, 0, 2, 5);
+        Signs.plan("8: 5 by 2", sign, 0, 2, 5);
         Expect.same("8: show", 2, sign.show(0));
         Expect.same("8: as told", 31, sign.column(1, 0));
         sign.power(1, 3);
@@ -83,7 +75,7 @@ public final class ShowTest {
         sign.letter(3, 31, 0, 31);
         sign.list(2);
         sign.power(5, 3);
-        plan("8: none other is listed", sign, 0, 1, 4);
+        Signs.plan("8: none other is listed", sign, 0, 1, 4);
         sign.list(1);
         Expect.same("8: each first step says line 1", NONE, sign.ofLine(0, 6));
         Expect.same("8: no flips", NONE, sign.ofLine(0, 7));
@@ -92,10 +84,10 @@ public final class ShowTest {
         Expect.same("8: nothing happens", 0, sign.sign(7));
         Expect.same("8: nor is it shown last", NONE, sign.sign(17));
         Expect.same("8: line 1 itself", 1, sign.show(1));
-        plan("8: from line 1", sign, 0, 4);
+        Signs.plan("8: from line 1", sign, 0, 4);
         Expect.same("8: shown", 1, sign.show(0));
         sign.power(10, 3);
-        plan("8: back", sign, 1, 4);
+        Signs.plan("8: back", sign, 1, 4);
         Expect.yes("8: sound", sign.isSound());
     }
 
@@ -105,11 +97,11 @@ public final class ShowTest {
         sign.letter(1, 31, 0, 0);
         sign.list(111);
         sign.power(5, 3);
-        plan("8: no other line", sign, 0, 1, 4, 16);
+        Signs.plan("8: no other line", sign, 0, 1, 4, 16);
         sign.list(1);
         Expect.same("8: each first column is line 1, the last one, too", NONE, sign.ofLine(0, 6));
         sign.power(10, 3);
-        plan("8: two at first, then one", sign, 0, 5, 16);
+        Signs.plan("8: two at first, then one", sign, 0, 5, 16);
     }
 
     private static void linesThatWereSaidAreNotWrong() {
@@ -120,17 +112,17 @@ public final class ShowTest {
         sign.list(111);
         sign.power(5, 3);
         sign.show(0);
-        plan("8: line 1 would be said half way", sign, 2, 16, 4);
+        Signs.plan("8: line 1 would be said half way", sign, 2, 16, 4);
         sign.stick(2, 0, 1);
         sign.stick(2, 0, NONE);
         Expect.same("8: it says none now", 0, sign.ofLine(0, 5));
-        plan("8: still", sign, 2, 16, 4);
+        Signs.plan("8: still", sign, 2, 16, 4);
         sign.width(8);
         sign.show(0);
-        plan("8: from line 0 to 1", sign, 1, 4);
+        Signs.plan("8: from line 0 to 1", sign, 1, 4);
         sign.show(1);
         Expect.same("8: says line 1", 1, sign.ofLine(1, 5));
-        plan("8: back by line 0 is one step", sign, 0, 4);
+        Signs.plan("8: back by line 0 is one step", sign, 0, 4);
     }
 
     private static void saidLineMayComeAgainHalfWay() {
@@ -142,7 +134,7 @@ public final class ShowTest {
         sign.power(5, 3);
         Expect.same("8: the first alone would be said", NONE, sign.ofLine(1, 6));
         sign.show(0);
-        plan("8: as it is said already, it may", sign, 1, 1, 2, 4);
+        Signs.plan("8: as it is said already, it may", sign, 1, 1, 2, 4);
     }
 
     private static void sameFormsOfOtherLinesAreWrong() {
@@ -159,7 +151,7 @@ public final class ShowTest {
         sign.show(1);
         Expect.same("8: the likest is not one", NONE, sign.sign(5));
         Expect.same("8: says the other one, too", 1, sign.ofLine(2, 5));
-        plan("8: from both", sign, 0, 4);
+        Signs.plan("8: from both", sign, 0, 4);
         sign.stick(0, 0, 0);
         Expect.same("8: harm moves line 2", 1, sign.ofLine(2, 2));
     }
@@ -189,11 +181,11 @@ public final class ShowTest {
         sign.list(3);
         sign.list(1);
         sign.power(2, 0);
-        plan("8: only the outer two together are no line", sign, 0, 17, 4);
+        Signs.plan("8: only the outer two together are no line", sign, 0, 17, 4);
         sign.power(1, 0);
         Expect.same("8: by 1 each first step is a line", NONE, sign.ofLine(0, 6));
         sign.power(3, 0);
-        plan("8: all at once", sign, 0, 21);
+        Signs.plan("8: all at once", sign, 0, 21);
     }
 
     private static void stuckDotsAreNotFlipped() {
@@ -226,7 +218,7 @@ public final class ShowTest {
         sign.list(1);
         sign.list(2);
         sign.show(0);
-        plan("8: nothing changes", sign, 1);
+        Signs.plan("8: nothing changes", sign, 1);
         Expect.same("8: no flips", 0, sign.ofLine(1, 7));
         Expect.same("8: no step", 0, sign.show(1));
         Expect.same("8: but shown last", 1, sign.sign(17));

@@ -76,4 +76,13 @@ final class Signs {
     static int send(Flapline sign, int number, int line) {
         return sign.frame(number, line, sign.check(number, line));
     }
+
+    /** What the sign counted of its frames, and the last number that was taken. */
+    static void counts(String what, Flapline sign, int broken, int old, int taken, int unshown, int last) {
+        Expect.same(what + ": broken", broken, sign.sign(9));
+        Expect.same(what + ": old", old, sign.sign(10));
+        Expect.same(what + ": taken", taken, sign.sign(11));
+        Expect.same(what + ": unshown", unshown, sign.sign(12));
+        Expect.same(what + ": last", last, sign.sign(13));
+    }
 }

@@ -42,14 +42,6 @@ public final class WireBusTest {
         return sign;
     }
 
-    private static void counts(String what, Flapline sign, int broken, int old, int taken, int unshown, int last) {
-        Expect.same(what + ": broken", broken, sign.sign(9));
-        Expect.same(what + ": old", old, sign.sign(10));
-        Expect.same(what + ": taken", taken, sign.sign(11));
-        Expect.same(what + ": unshown", unshown, sign.sign(12));
-        Expect.same(what + ": last", last, sign.sign(13));
-    }
-
     private static void route(String what, Flapline sign, int next, int wheel, int shown) {
         Expect.same(what + ": next", next, sign.sign(15));
         Expect.same(what + ": wheel", wheel, sign.sign(16));
@@ -79,7 +71,7 @@ public final class WireBusTest {
         for (int check = 0; check <= 10; check++) {
             Flapline sign = threeLines();
             Expect.same("4: check " + check + " of 0, 0", check == 1 ? 2 : 0, sign.frame(0, 0, check));
-            counts("4: check " + check, sign, check == 1 ? 0 : 1, 0, check == 1 ? 1 : 0, 0, check == 1 ? 0 : 7);
+            Signs.counts("4: check " + check, sign, check == 1 ? 0 : 1, 0, check == 1 ? 1 : 0, 0, check == 1 ? 0 : 7);
         }
         for (int check = 0; check <= 10; check++) {
             Flapline sign = threeLines();
@@ -93,12 +85,12 @@ public final class WireBusTest {
         Flapline sign = threeLines();
         Signs.send(sign, 0, 0);
         Expect.same("4: broken", 0, sign.frame(1, 1, 10));
-        counts("4: one", sign, 1, 0, 1, 0, 0);
+        Signs.counts("4: one", sign, 1, 0, 1, 0, 0);
         Expect.same("4: not shown", 0, sign.sign(17));
         Expect.same("4: the same again", 0, sign.frame(1, 1, 10));
         Expect.same("4: an old number", 0, sign.frame(0, 1, 0));
         Expect.same("4: no such line", 0, sign.frame(1, 7, 0));
-        counts("4: four", sign, 4, 0, 1, 0, 0);
+        Signs.counts("4: four", sign, 4, 0, 1, 0, 0);
         Expect.same("4: it comes whole", 2, sign.frame(1, 1, 9));
     }
 
@@ -145,11 +137,11 @@ public final class WireBusTest {
         for (int turn = 0; turn < 20; turn++) {
             Expect.same("4: one by one", 2, Signs.send(sign, turn % 8, turn % 2));
         }
-        counts("4: twenty", sign, 0, 0, 20, 0, 3);
+        Signs.counts("4: twenty", sign, 0, 0, 20, 0, 3);
         for (int turn = 0; turn < 6; turn++) {
             Expect.same("4: four by four", 2, Signs.send(sign, (7 + 4 * turn) % 8, 0));
         }
-        counts("4: six more", sign, 0, 0, 26, 0, 3);
+        Signs.counts("4: six more", sign, 0, 0, 26, 0, 3);
     }
 
     private static void anOldOneIsOnlyCounted() {
@@ -159,10 +151,10 @@ public final class WireBusTest {
         Expect.same("4: late", 1, Signs.send(sign, 1, 1));
         Expect.same("4: far ahead is as late", 1, Signs.send(sign, 7, 1));
         Expect.same("4: no such line", 1, Signs.send(sign, 0, 7));
-        counts("4: four", sign, 0, 4, 1, 0, 2);
+        Signs.counts("4: four", sign, 0, 4, 1, 0, 2);
         Expect.same("4: not shown", 0, sign.sign(17));
         Expect.same("4: the next", 2, Signs.send(sign, 6, 1));
-        counts("4: five", sign, 0, 4, 2, 0, 6);
+        Signs.counts("4: five", sign, 0, 4, 2, 0, 6);
     }
 
     private static void aTakenOneIsShown() {
@@ -173,24 +165,24 @@ public final class WireBusTest {
         Expect.same("4: flips", 2, sign.sign(7));
         Expect.same("4: wear", 2, sign.column(0, 1));
         Expect.same("4: last line", 1, sign.sign(17));
-        counts("4: taken", sign, 0, 0, 1, 0, 0);
+        Signs.counts("4: taken", sign, 0, 0, 1, 0, 0);
     }
 
     private static void aTakenOneWithoutAPlan() {
         Flapline sign = threeLines();
         Signs.send(sign, 0, 1);
         Expect.same("4: unshown", 3, Signs.send(sign, 4, 2));
-        counts("4: taken all the same", sign, 0, 0, 2, 1, 4);
+        Signs.counts("4: taken all the same", sign, 0, 0, 2, 1, 4);
         route("4: nothing else", sign, 0, 0, 1);
         Signs.shows("4: as before", sign, 3);
         Expect.same("4: doubled it is old", 1, Signs.send(sign, 4, 2));
         Expect.same("4: the next of such", 3, Signs.send(sign, 5, 2));
-        counts("4: two", sign, 0, 1, 3, 2, 5);
+        Signs.counts("4: two", sign, 0, 1, 3, 2, 5);
 
         Flapline wrong = Signs.with(Signs.letters(31), 1, 11);
         wrong.power(5, 3);
         Expect.same("4: each way is wrong", 3, Signs.send(wrong, 0, 1));
-        counts("4: wrong", wrong, 0, 0, 1, 1, 0);
+        Signs.counts("4: wrong", wrong, 0, 0, 1, 1, 0);
         Signs.shows("4: dark", wrong);
     }
 
@@ -198,7 +190,7 @@ public final class WireBusTest {
         Flapline sign = threeLines();
         sign.show(0);
         Expect.same("4: shown already", 2, Signs.send(sign, 0, 0));
-        counts("4: it has a plan of no step", sign, 0, 0, 1, 0, 0);
+        Signs.counts("4: it has a plan of no step", sign, 0, 0, 1, 0, 0);
         Expect.same("4: no step", 1, sign.sign(8));
     }
 
@@ -208,7 +200,7 @@ public final class WireBusTest {
         Expect.refused("4: no line at all", Expect.STATE, Flapline::new, sign -> sign.frame(0, 0, 1));
         Flapline sign = threeLines();
         Expect.thrown("4: not taken", Expect.STATE, () -> sign.frame(0, 3, 5));
-        counts("4: not counted", sign, 0, 0, 0, 0, 7);
+        Signs.counts("4: not counted", sign, 0, 0, 0, 0, 7);
         sign.list(11);
         Expect.same("4: so it is new as it is listed", 2, sign.frame(0, 3, 5));
         Flapline empty = new Flapline();
@@ -375,7 +367,7 @@ public final class WireBusTest {
         Expect.same("4: to a stop whose line is too long", 2, sign.wheel(1));
         route("4: the line ahead stays", sign, 2, 0, 1);
         Signs.shows("4: its dots, too", sign, 3);
-        counts("4: no frame", sign, 0, 0, 0, 0, 7);
+        Signs.counts("4: no frame", sign, 0, 0, 0, 0, 7);
         Expect.same("4: rolls on", 3, sign.wheel(1));
         route("4: the next line", sign, 3, 0, 0);
     }

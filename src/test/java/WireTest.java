@@ -26,34 +26,22 @@ public final class WireTest {
         return sign;
     }
 
-    private static int send(Flapline sign, int number, int line) {
-        return sign.frame(number, line, sign.check(number, line));
-    }
-
-    private static void counts(String what, Flapline sign, int broken, int old, int taken, int unshown, int last) {
-        Expect.same(what + ": broken", broken, sign.sign(9));
-        Expect.same(what + ": old", old, sign.sign(10));
-        Expect.same(what + ": taken", taken, sign.sign(11));
-        Expect.same(what + ": unshown", unshown, sign.sign(12));
-        Expect.same(what + ": last", last, sign.sign(13));
-    }
-
     private static void promise9() {
         Flapline sign = threeLines();
-        Expect.same("9: taken", 2, send(sign, 0, 1));
+        Expect.same("9: taken", 2, Signs.send(sign, 0, 1));
         Expect.same("9: shown", 1, sign.sign(17));
         Expect.same("9: its dots", 3, sign.column(0, 0));
-        counts("9: one", sign, 0, 0, 1, 0, 0);
-        Expect.same("9: doubled", 1, send(sign, 0, 0));
+        Signs.counts("9: one", sign, 0, 0, 1, 0, 0);
+        Expect.same("9: doubled", 1, Signs.send(sign, 0, 0));
         Expect.same("9: not shown", 1, sign.sign(17));
-        counts("9: two", sign, 0, 1, 1, 0, 0);
-        Expect.same("9: unshown", 3, send(sign, 2, 2));
+        Signs.counts("9: two", sign, 0, 1, 1, 0, 0);
+        Expect.same("9: unshown", 3, Signs.send(sign, 2, 2));
         Expect.same("9: nothing shown", 1, sign.sign(17));
-        counts("9: three", sign, 0, 1, 2, 1, 2);
+        Signs.counts("9: three", sign, 0, 1, 2, 1, 2);
         Expect.same("9: broken", 0, sign.frame(3, 0, (sign.check(3, 0) + 1) % 11));
-        counts("9: four", sign, 1, 1, 2, 1, 2);
-        Expect.same("9: without a step", 2, send(sign, 3, 1));
-        counts("9: five", sign, 1, 1, 3, 1, 3);
+        Signs.counts("9: four", sign, 1, 1, 2, 1, 2);
+        Expect.same("9: without a step", 2, Signs.send(sign, 3, 1));
+        Signs.counts("9: five", sign, 1, 1, 3, 1, 3);
         Expect.yes("9: sound", sign.isSound());
     }
 
@@ -61,14 +49,14 @@ public final class WireTest {
         for (int last = 0; last < 4; last++) {
             for (int ahead = 0; ahead < 8; ahead++) {
                 Flapline sign = threeLines();
-                send(sign, last, 0);
+                Signs.send(sign, last, 0);
                 int due = ahead >= 1 && ahead <= 4 ? 2 : 1;
-                Expect.same("9: " + ahead + " behind " + last, due, send(sign, (last + ahead) % 8, 1));
+                Expect.same("9: " + ahead + " behind " + last, due, Signs.send(sign, (last + ahead) % 8, 1));
                 Expect.same("9: last", due == 2 ? (last + ahead) % 8 : last, sign.sign(13));
             }
         }
         for (int number = 0; number < 8; number++) {
-            Expect.same("9: at first " + number, number < 4 ? 2 : 1, send(threeLines(), number, 0));
+            Expect.same("9: at first " + number, number < 4 ? 2 : 1, Signs.send(threeLines(), number, 0));
         }
     }
 
@@ -80,8 +68,8 @@ public final class WireTest {
         Expect.argument("9: line 8", sign, () -> sign.frame(0, 8, 8));
         Expect.argument("9: check below 0", sign, () -> sign.frame(0, 0, -1));
         Expect.argument("9: check 11", sign, () -> sign.frame(0, 0, 11));
-        Expect.state("9: new, and no such line", sign, () -> send(sign, 1, 3));
-        Expect.same("9: old, and no such line", 1, send(sign, 7, 3));
+        Expect.state("9: new, and no such line", sign, () -> Signs.send(sign, 1, 3));
+        Expect.same("9: old, and no such line", 1, Signs.send(sign, 7, 3));
         Expect.same("9: broken, and no such line", 0, sign.frame(1, 3, (sign.check(1, 3) + 1) % 11));
     }
 
